@@ -1,0 +1,98 @@
+import java.lang.reflect.Constructor;
+import java.lang.reflect.Field;
+import java.lang.reflect.Method;
+import java.lang.reflect.Modifier;
+import java.nio.file.Files;
+import java.nio.file.Path;
+import java.util.Random;
+import java.util.TreeSet;
+
+/** The document's face just as it stands, a source without what LANGUAGE.md leaves out, and calls that never throw. */
+public final class RuleTests {
+  private static final String[] FACE = {"cls 1", "face 0", "below 2", "member 9", "is 2", "fits 2", "function 1", "seen 3",
+    "seenAt 4", "argument 1", "lambda 5", "wipe 0", "choose 4", "phase 0", "applied 1", "special 2", "count 1"};
+  private static final String[] CONSTANTS = {"NONE -1", "BAD -2", "UNSEEN -3", "UNMEANT -4", "UNFIT -5", "AMBIGUOUS -6",
+    "INSTANCE -7"};
+  private static final String[] LEFT_OUT = {"throw", "throws", "try", "catch", "synchronized", "assert", "volatile", "Object",
+    "System.out", "->", "::", "equals", "hashCode", "toString", "protected", "HashMap", "Exact", "record", "new Integer"};
+  private static int failed = 0;
+
+  private static void hold(boolean good, String what) {
+    if (good) return;
+    failed++;
+    System.out.println("does not hold: " + what);
+  }
+
+  private static void faceIsAsDue() throws IllegalAccessException {
+    TreeSet<String> due = new TreeSet<>(java.util.List.of(FACE));
+    TreeSet<String> found = new TreeSet<>();
+    for (Method m : MemberChoice.class.getDeclaredMethods()) {
+      if (Modifier.isPrivate(m.getModifiers())) {
+        for (String f : FACE) hold(!f.startsWith(m.getName() + " "), "a private method named " + m.getName());
+        continue;
+      }
+      boolean plain = Modifier.isPublic(m.getModifiers()) && !Modifier.isStatic(m.getModifiers());
+      hold(plain && m.getReturnType() == int.class, m + " is of the face");
+      for (Class<?> p : m.getParameterTypes()) hold(p == int.class, m + " takes ints");
+      found.add(m.getName() + " " + m.getParameterCount());
+    }
+    hold(due.equals(found), "the methods are " + due + ", found " + found);
+    constantsAreAsDue();
+    hold(Modifier.isFinal(MemberChoice.class.getModifiers()), "the class is final");
+    Constructor<?>[] makers = MemberChoice.class.getDeclaredConstructors();
+    boolean one = makers.length == 1 && makers[0].getParameterCount() == 0 && Modifier.isPublic(makers[0].getModifiers());
+    hold(one, "there is one public constructor without parameters");
+  }
+
+  private static void constantsAreAsDue() throws IllegalAccessException {
+    TreeSet<String> found = new TreeSet<>();
+    for (Field f : MemberChoice.class.getDeclaredFields()) {
+      if (Modifier.isPrivate(f.getModifiers())) continue;
+      int wanted = Modifier.PUBLIC | Modifier.STATIC | Modifier.FINAL;
+      hold(f.getModifiers() == wanted && f.getType() == int.class, f + " is a constant");
+      found.add(f.getName() + " " + f.getInt(null));
+    }
+    hold(new TreeSet<>(java.util.List.of(CONSTANTS)).equals(found), "the constants, found " + found);
+  }
+
+  private static void sourceKeepsToTheRules() throws java.io.IOException {
+    String source = Files.readString(Path.of("src/main/java/MemberChoice.java"));
+    String code = source.replaceAll("(?s)/\\*.*?\\*/", "").replaceAll("//[^\n]*", "");
+    for (String word : LEFT_OUT) {
+      boolean letters = Character.isLetter(word.charAt(0));
+      String pattern = letters ? "(?s).*\\b" + word.replace(".", "\\.") + "\\b.*" : "(?s).*" + word + ".*";
+      hold(!code.matches(pattern), "the source does without '" + word + "'");
+    }
+    String imports = code.replaceAll("(?s)public final class.*", "").strip();
+    hold(imports.equals("import java.util.Arrays;"), "the source imports Arrays alone, found " + imports);
+  }
+
+  private static int anyNumber(Random random) {
+    int k = random.nextInt(10);
+    return k == 0 ? random.nextInt() : k == 1 ? Integer.MIN_VALUE : k == 2 ? Integer.MAX_VALUE : k < 7 ? random.nextInt(45) - 3 : random.nextInt(110) - 3;
+  }
+
+  /** Far more than 512 calls too: what they answer is free then, but none may throw. */
+  private static void nothingThrows() throws ReflectiveOperationException {
+    Random random = new Random(7);
+    Method[] all = MemberChoice.class.getMethods();
+    for (int run = 0; run < 300; run++) {
+      MemberChoice x = new MemberChoice();
+      for (int call = 0; call < 2000; call++) {
+        Method m = all[random.nextInt(all.length)];
+        if (m.getDeclaringClass() != MemberChoice.class) continue;
+        Object[] given = new Object[m.getParameterCount()];
+        for (int i = 0; i < given.length; i++) given[i] = anyNumber(random);
+        m.invoke(x, given);
+      }
+    }
+  }
+
+  public static void main(String[] args) throws Exception {
+    faceIsAsDue();
+    sourceKeepsToTheRules();
+    nothingThrows();
+    System.out.println(failed == 0 ? "all rules hold" : failed + " do not hold");
+    if (failed != 0) System.exit(1);
+  }
+}
