@@ -31,9 +31,6 @@ public final class MemberChoice {
     }
 
     public int below(int type, int face) {
-        if (!types.isTold(type) || !types.isInterface(face)) {
-            return BAD;
-        }
         int told = types.putBelow(type, face);
         if (told != BAD) {
             members.forgetFunctions();
@@ -220,6 +217,9 @@ public final class MemberChoice {
         }
 
         int putBelow(int type, int face) {
+            if (!isTold(type) || !isInterface(face)) {
+                return BAD;
+            }
             int row = type - FIRST_TOLD;
             int bit = 1 << face - FIRST_TOLD;
             boolean full = Integer.bitCount(toldFaces[row]) >= MOST_FACES;

@@ -1,3 +1,5 @@
+import java.lang.reflect.Method;
+import java.lang.reflect.Modifier;
 import java.util.ArrayDeque;
 import java.util.ArrayList;
 import java.util.Arrays;
@@ -7,12 +9,15 @@ import java.util.TreeMap;
 
 /** Random runs of calls, each answer held against PlainModel's; the seeds are fixed, so the runs are always the same. */
 public final class ModelRuns {
-  private static final int RUNS = 6000, CALLS = 512;
+  private static final int RUNS = 6000, CALLS = 512, NONE = -1;
   private static final int[] ODD = {-2147483648, 2147483647, -9, -8, -3, -2, -1, 10, 11, 15, 40, 60, 63, 64, 74, 79, 104, 128};
+  private static final String[] METHODS = {"cls", "face", "below", "member", "is", "fits", "function", "seen", "seenAt",
+    "argument", "lambda", "wipe", "choose", "phase", "applied", "special", "count"};
+  private static final Method[] REAL = methodsOf(MemberChoice.class), MODEL = methodsOf(PlainModel.class);
   private static final TreeMap<Integer, Integer> chosen = new TreeMap<>();
   private static final int[] phases = new int[4];
   private static int wrong = 0;
-  private static int specialNo = 0, functionsFound = 0;
+  private static int specialNo = 0, functionsFound = 0, finer = 0;
 
   private final Random random;
   private final int names, odd, pool;
@@ -20,13 +25,36 @@ public final class ModelRuns {
   private final ArrayDeque<int[]> ahead = new ArrayDeque<>();
   private final PlainModel model = new PlainModel();
   private final boolean[] isFace = new boolean[24];
-  private int told = 0;
+  private int told = 0, aimsFirst = 0;
 
   private ModelRuns(int seed) {
     random = new Random(seed);
     names = 1 + random.nextInt(3);
     odd = random.nextInt(4) == 0 ? 8 : 60;
     pool = 2 + random.nextInt(22);
+    if (random.nextInt(3) == 0) prepareFunctions();
+  }
+
+  /** FUNCTIONS that differ in their results alone, and a CLASS (16) with MEMBERS that take them. */
+  private void prepareFunctions() {
+    aimsFirst = 30;
+    int[] results = {NONE, 1, 2, 3, 5, 6, 7, 8, 9, 1, 5, 0, 4, 65};
+    int faces = 2 + below(6), last = 16 + faces;
+    ahead.add(new int[] {0, 8});
+    for (int k = 0; k < faces; k++) ahead.add(new int[] {1});
+    for (int t = 17; t <= last; t++) {
+      int count = below(8) == 0 ? 0 : 1;
+      ahead.add(new int[] {3, t, 0, 4, results[below(results.length)], count, 1, 1, 1, 1});
+    }
+    if (below(3) == 0) ahead.add(new int[] {2, 17 + below(faces), 17 + below(faces)});
+    int[] seconds = {5, 1, 8, 2, 9};
+    int width = 1 + below(2);
+    boolean varied = below(3) == 0;
+    for (int t = 17; t <= last; t++) {
+      int second = varied ? 64 + 17 + below(faces) : below(2) == 0 ? 5 : seconds[below(5)];
+      boolean spread = varied && width == 1;
+      ahead.add(new int[] {3, 16, 1, varied ? 8 : 0, NONE, width, spread ? 64 + t : t, second, 0, 0});
+    }
   }
 
   private int below(int n) { return random.nextInt(n); }
@@ -59,16 +87,15 @@ public final class ModelRuns {
 
   private int result() { return below(3) == 0 ? NONE : below(2) == 0 ? simple() : type(); }
 
-  private static final int NONE = -1;
-
   private int name() { return rarely() ? oddOne() : below(names); }
 
   private int from() { return below(2) == 0 ? NONE : toldOne(); }
 
   private int[] call() {
-    if (told < 3) return newType();
     if (!ahead.isEmpty()) return ahead.poll();
-    if (!kept.isEmpty() && below(12) == 0) {
+    if (told < 3) return newType();
+    aimsFirst--;
+    if (!kept.isEmpty() && (aimsFirst >= 0 || below(12) == 0)) {
       aim(kept.get(below(kept.size())));
       return ahead.poll();
     }
@@ -147,53 +174,29 @@ public final class ModelRuns {
     return new int[] {3, owner, name(), marks, result(), count, p[0], p[1], p[2], p[3]};
   }
 
-  private static int real(MemberChoice x, int[] c) {
-    switch (c[0]) {
-      case 0: return x.cls(c[1]);
-      case 1: return x.face();
-      case 2: return x.below(c[1], c[2]);
-      case 3: return x.member(c[1], c[2], c[3], c[4], c[5], c[6], c[7], c[8], c[9]);
-      case 4: return x.is(c[1], c[2]);
-      case 5: return x.fits(c[1], c[2]);
-      case 6: return x.function(c[1]);
-      case 7: return x.seen(c[1], c[2], c[3]);
-      case 8: return x.seenAt(c[1], c[2], c[3], c[4]);
-      case 9: return x.argument(c[1]);
-      case 10: return x.lambda(c[1], c[2], c[3], c[4], c[5]);
-      case 11: return x.wipe();
-      case 12: return x.choose(c[1], c[2], c[3], c[4]);
-      case 13: return x.phase();
-      case 14: return x.applied(c[1]);
-      case 15: return x.special(c[1], c[2]);
-      default: return x.count(c[1]);
+  /** The call c, its first number being the method's place in METHODS, on an object of either class. */
+  private static int answer(Object x, Method[] methods, int[] c) {
+    Object[] given = new Object[c.length - 1];
+    for (int i = 0; i < given.length; i++) given[i] = c[i + 1];
+    try {
+      return (Integer) methods[c[0]].invoke(x, given);
+    } catch (ReflectiveOperationException e) {
+      throw new IllegalStateException(Arrays.toString(c), e);
     }
   }
 
-  private static int due(PlainModel x, int[] c) {
-    switch (c[0]) {
-      case 0: return x.cls(c[1]);
-      case 1: return x.face();
-      case 2: return x.below(c[1], c[2]);
-      case 3: return x.member(c[1], c[2], c[3], c[4], c[5], c[6], c[7], c[8], c[9]);
-      case 4: return x.is(c[1], c[2]);
-      case 5: return x.fits(c[1], c[2]);
-      case 6: return x.function(c[1]);
-      case 7: return x.seen(c[1], c[2], c[3]);
-      case 8: return x.seenAt(c[1], c[2], c[3], c[4]);
-      case 9: return x.argument(c[1]);
-      case 10: return x.lambda(c[1], c[2], c[3], c[4], c[5]);
-      case 11: return x.wipe();
-      case 12: return x.choose(c[1], c[2], c[3], c[4]);
-      case 13: return x.phase();
-      case 14: return x.applied(c[1]);
-      case 15: return x.special(c[1], c[2]);
-      default: return x.count(c[1]);
+  private static Method[] methodsOf(Class<?> type) {
+    Method[] found = new Method[METHODS.length];
+    for (Method m : type.getDeclaredMethods()) {
+      int place = Arrays.asList(METHODS).indexOf(m.getName());
+      if (place >= 0 && !Modifier.isPrivate(m.getModifiers())) found[place] = m;
     }
+    return found;
   }
 
   private boolean check(MemberChoice x, int[] c, int run) {
-    int want = due(model, c);
-    int got = real(x, c);
+    int want = answer(model, MODEL, c);
+    int got = answer(x, REAL, c);
     if (c[0] <= 1 && want >= 0) {
       isFace[told] = c[0] == 1;
       told++;
@@ -201,6 +204,7 @@ public final class ModelRuns {
     if (c[0] == 3 && want >= 0) kept.add(c);
     if (c[0] == 6 && want >= 0) functionsFound++;
     if (c[0] == 15 && want == 0) specialNo++;
+    if (c[0] == 15 && model.wasFiner()) finer++;
     if (got == want) return true;
     wrong++;
     System.out.println("run " + run + ": call " + Arrays.toString(c) + " answered " + got + ", due is " + want);
@@ -227,15 +231,17 @@ public final class ModelRuns {
       int[] c = call();
       if (!check(x, c, number)) return;
       boolean look = c[0] == 12 && below(2) == 0;
-      if (look && !checkChoice(x, number, real(x, c))) return;
+      if (look && !checkChoice(x, number, answer(x, REAL, c))) return;
     }
   }
 
   public static void main(String[] args) {
     for (int seed = 1; seed <= RUNS && wrong < 10; seed++) new ModelRuns(seed).run(seed);
     System.out.println("choices by answer " + chosen + ", by phase " + Arrays.toString(phases)
-        + ", functions " + functionsFound + ", not as special " + specialNo);
-    boolean thin = chosen.size() < 7 || phases[1] < 1000 || phases[2] < 1000 || phases[3] < 1000 || specialNo < 1000;
+        + ", functions " + functionsFound + ", not as special " + specialNo
+        + ", finer functions " + finer);
+    boolean thin = chosen.size() < 7 || phases[1] < 1000 || phases[2] < 1000 || phases[3] < 1000;
+    thin |= specialNo < 1000 || finer < 1000;
     if (thin && wrong == 0) System.out.println("the runs do not reach enough");
     System.out.println(wrong == 0 ? "all answers are as due" : wrong + " answers are not as due");
     if (wrong != 0 || thin) System.exit(1);

@@ -25,6 +25,7 @@ final class PlainModel {
   private int phase = 0;
   private List<Method> applied = new ArrayList<>();
   private boolean[][] specials = new boolean[60][60];
+  private boolean finer = false;
 
   private boolean isTold(int t) { return 16 <= t && t < 16 + told.size(); }
   private boolean isFace(int t) { return isTold(t) && told.get(t - 16).isFace(); }
@@ -204,12 +205,16 @@ final class PlainModel {
     Method g = functionOf(q);
     if (!a.lambda() || !a.told() || f == null || g == null) return false;
     if (!f.parameters().equals(g.parameters()) || goes(q, p)) return false;
+    finer = true;
     if (g.result() == NONE) return true;
     if (f.result() == NONE) return false;
     if (goes(f.result(), g.result())) return true;
     if (primitive(f.result()) && reference(g.result()) && primitive(a.type())) return true;
     return reference(f.result()) && primitive(g.result()) && reference(a.type());
   }
+
+  /** Whether the latest choice looked at the results of two FUNCTIONS; for tests that want to know what they reach. */
+  boolean wasFiner() { return finer; }
 
   private boolean asSpecial(Method m, Method o) {
     for (int i = 0; i < given.size(); i++) {
@@ -221,6 +226,7 @@ final class PlainModel {
   int choose(int type, int name, int from, int fixed) {
     if (!askable(type, name, from) || fixed != 0 && fixed != 1) return BAD;
     phase = 0;
+    finer = false;
     applied = new ArrayList<>();
     List<Method> all = allSeen(type, name, from);
     if (all.isEmpty()) return UNSEEN;

@@ -151,6 +151,11 @@ public final class PromiseTests {
     due(BAD, add(x, c, 0, VARIED, NONE));
     due(BAD, add(x, c, 0, VARIED, NONE, ARRAY + INT, INT));
     due(0, x.count(1));
+    due(0, x.seen(c, 0, c));
+    due(BAD, add(x, f, 0, ABSTRACT | VARIED, NONE, INT));
+    due(NONE, x.function(f));
+    due(BAD, add(x, f, 0, ABSTRACT | STATIC, NONE));
+    due(0, x.seen(f, 0, NONE));
     due(0, add(x, c, 0, ABSTRACT | PRIVATE, NONE));
     due(1, add(x, f, 0, STATIC | PRIVATE, NONE));
     due(2, add(x, c, 15, VARIED, ARRAY + f, INT, ARRAY + INT));
@@ -279,6 +284,8 @@ public final class PromiseTests {
     seenIs(x, c, 0, g, 1, 2, 4, 7, 8);
     seenIs(x, c, 1, NONE, 9);
     seenIs(x, c, 15, NONE);
+    due(BAD, add(x, b, 0, 0, NULL, INT));
+    seenIs(x, b, 0, NONE, 1, 2, 4, 6);
     int[] wrong = {LEAST, -2, 0, 8, 10, 15, 21, 40, ARRAY + c, MOST};
     for (int t : wrong) {
       due(BAD, x.seen(t, 0, NONE));
@@ -385,6 +392,10 @@ public final class PromiseTests {
     due(varied, choose(x, c, 0, ARRAY + INT));
     due(1, x.phase());
     due(MemberChoice.AMBIGUOUS, choose(x, c, 0, NULL));
+    int bools = add(x, c, 4, VARIED, NONE, ARRAY + BOOL);
+    due(bools, choose(x, c, 4, BOXED_BOOL, BOOL));
+    due(bools, choose(x, c, 4, ARRAY + BOOL));
+    due(MemberChoice.UNFIT, choose(x, c, 4, ARRAY + BOXED_BOOL));
     int wide = add(x, c, 2, VARIED, NONE, LONG, INT, ARRAY + OBJECT);
     due(MemberChoice.UNMEANT, choose(x, c, 2, INT));
     due(wide, choose(x, c, 2, INT, INT));
@@ -517,6 +528,23 @@ public final class PromiseTests {
     due(0, x.special(boxB, boxA));
     add(x, c, 3, 0, NONE, toLong, BOXED_INT);
     due(boxA, x.choose(c, 3, NONE, 0));
+    int toDouble = functionFace(x, DOUBLE, INT);
+    int narrow = add(x, c, 5, 0, NONE, toInt), broad = add(x, c, 5, 0, NONE, toDouble);
+    due(narrow, chooseForLambda(x, c, 5, 1, BOXED_INT));
+    due(2, x.phase());
+    due(1, x.special(narrow, broad));
+    due(0, x.special(broad, narrow));
+    due(narrow, chooseForLambda(x, c, 5, 1, INT));
+    int toDoubleBox = functionFace(x, BOXED_DOUBLE, INT), toBool = functionFace(x, BOXED_BOOL, INT);
+    add(x, c, 6, 0, NONE, toDoubleBox);
+    add(x, c, 6, 0, NONE, toBool);
+    due(MemberChoice.UNFIT, chooseForLambda(x, c, 6, 1, INT));
+    int nothing = functionFace(x, NONE, INT), idle = add(x, c, 7, 0, NONE, nothing), idler = add(x, c, 7, 0, NONE, toNone);
+    due(MemberChoice.AMBIGUOUS, chooseForLambda(x, c, 7, 1, NONE));
+    due(1, x.special(idle, idler));
+    due(1, x.special(idler, idle));
+    due(MemberChoice.AMBIGUOUS, chooseForLambda(x, c, 7, 0, NONE));
+    due(0, x.special(idle, idler));
     int other = add(x, c, 4, 0, NONE, fromLong);
     due(MemberChoice.UNFIT, chooseForLambda(x, c, 4, 1, INT));
     due(other, chooseForLambda(x, c, 4, 0, INT));
@@ -628,6 +656,9 @@ public final class PromiseTests {
     due(0, x.applied(0));
     due(47, x.applied(47));
     due(NONE, x.applied(48));
+    due(MemberChoice.AMBIGUOUS, choose(x, last, 0, NULL, NULL));
+    due(59, x.applied(59));
+    due(NONE, x.applied(60));
     due(59, choose(x, last, 0, 16 + 11, NULL));
     due(59, x.applied(35));
     due(1, x.special(59, 0));
