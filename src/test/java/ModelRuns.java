@@ -9,7 +9,7 @@ import java.util.TreeMap;
 
 /** Random runs of calls, each answer held against PlainModel's; the seeds are fixed, so the runs are always the same. */
 public final class ModelRuns {
-  private static final int RUNS = 6000, CALLS = 512, NONE = -1;
+  private static final int RUNS = 9000, CALLS = 512, NONE = -1;
   private static final int[] ODD = {-2147483648, 2147483647, -9, -8, -3, -2, -1, 10, 11, 15, 40, 60, 63, 64, 74, 79, 104, 128};
   private static final String[] METHODS = {"cls", "face", "below", "member", "is", "fits", "function", "seen", "seenAt",
     "argument", "lambda", "wipe", "choose", "phase", "applied", "special", "count"};
@@ -25,7 +25,7 @@ public final class ModelRuns {
   private final ArrayDeque<int[]> ahead = new ArrayDeque<>();
   private final PlainModel model = new PlainModel();
   private final boolean[] isFace = new boolean[24];
-  private int told = 0, aimsFirst = 0;
+  private int told = 0, aimsFirst = 0, left = CALLS, latest = 0;
 
   private ModelRuns(int seed) {
     random = new Random(seed);
@@ -194,7 +194,9 @@ public final class ModelRuns {
     return found;
   }
 
+  /** Whether the run goes on: the answer is the one due, and the object has not had all its calls. */
   private boolean check(MemberChoice x, int[] c, int run) {
+    left--;
     int want = answer(model, MODEL, c);
     int got = answer(x, REAL, c);
     if (c[0] <= 1 && want >= 0) {
@@ -205,7 +207,8 @@ public final class ModelRuns {
     if (c[0] == 6 && want >= 0) functionsFound++;
     if (c[0] == 15 && want == 0) specialNo++;
     if (c[0] == 15 && model.wasFiner()) finer++;
-    if (got == want) return true;
+    latest = got;
+    if (got == want) return left > 0;
     wrong++;
     System.out.println("run " + run + ": call " + Arrays.toString(c) + " answered " + got + ", due is " + want);
     return false;
@@ -231,7 +234,7 @@ public final class ModelRuns {
       int[] c = call();
       if (!check(x, c, number)) return;
       boolean look = c[0] == 12 && below(2) == 0;
-      if (look && !checkChoice(x, number, answer(x, REAL, c))) return;
+      if (look && !checkChoice(x, number, latest)) return;
     }
   }
 

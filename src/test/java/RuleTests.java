@@ -55,6 +55,31 @@ public final class RuleTests {
     hold(new TreeSet<>(java.util.List.of(CONSTANTS)).equals(found), "the constants, found " + found);
   }
 
+  /** Rules 1, 2 and 11: the classes inside, and how many fields and parameters there may be. */
+  private static void sizesAreAsDue() {
+    Class<?>[] inside = MemberChoice.class.getDeclaredClasses();
+    hold(inside.length < 12, "there are at most twelve classes");
+    sizesAreAsDue(MemberChoice.class);
+    for (Class<?> c : inside) {
+      hold(Modifier.isStatic(c.getModifiers()) && !Modifier.isPublic(c.getModifiers()), c + " is static and not public");
+      hold(c.getDeclaredClasses().length == 0, c + " has no class inside");
+      sizesAreAsDue(c);
+    }
+  }
+
+  private static void sizesAreAsDue(Class<?> c) {
+    int fields = 0;
+    for (Field f : c.getDeclaredFields()) {
+      if (Modifier.isStatic(f.getModifiers())) hold(Modifier.isFinal(f.getModifiers()), f + " is final");
+      else fields++;
+    }
+    hold(fields <= 20, c + " has at most twenty fields");
+    for (Method m : c.getDeclaredMethods()) {
+      boolean told = m.getName().equals("member") && c == MemberChoice.class;
+      hold(told || m.getParameterCount() <= 7, m + " takes at most seven parameters, unless the document tells more");
+    }
+  }
+
   private static void sourceKeepsToTheRules() throws java.io.IOException {
     String source = Files.readString(Path.of("src/main/java/MemberChoice.java"));
     String code = source.replaceAll("(?s)/\\*.*?\\*/", "").replaceAll("//[^\n]*", "");
@@ -90,6 +115,7 @@ public final class RuleTests {
 
   public static void main(String[] args) throws Exception {
     faceIsAsDue();
+    sizesAreAsDue();
     sourceKeepsToTheRules();
     nothingThrows();
     System.out.println(failed == 0 ? "all rules hold" : failed + " do not hold");
