@@ -205,6 +205,29 @@ public final class EdgesOfMembers extends DocumentTest {
     }
   }
 
+  /** Promise 5: a refused one neither overrides nor makes or ends a FUNCTION, whatever it has been refused for. */
+  static void promise05RefusedOnesAreNotThere() {
+    int[][] wrong = {{17, 0, 0, NULL, 1, INT}, {17, 0, 0, -2, 1, INT}, {17, 0, VARIED, NONE, 1, INT}, {17, 0, 16, NONE, 1, INT},
+      {19, 0, ABSTRACT, NULL, 1, INT}, {19, 0, ABSTRACT, 20, 1, LONG}, {19, 1, ABSTRACT | VARIED, NONE, 0, INT},
+      {18, 0, ABSTRACT | STATIC, NONE, 1, LONG}, {18, 0, ABSTRACT | PRIVATE, NONE, 1, LONG}, {18, 16, ABSTRACT, NONE, 1, LONG},
+      {18, 0, ABSTRACT, NONE, 5, LONG}, {18, 0, ABSTRACT, NONE, -1, LONG}, {18, 0, 0, NONE, 1, INT}};
+    for (int[] m : wrong) {
+      Counted x = withClasses(2);
+      int f = x.addFunction(INT, INT), g = x.face();
+      x.below(g, f);
+      due(1, x.add(16, 0, PLAIN, NONE, INT));
+      due(BAD, x.member(m[0], m[1], m[2], m[3], m[4], m[5], INT, INT, INT));
+      due(0, x.function(f));
+      due(0, x.function(g));
+      due(1, x.seen(17, 0, NONE));
+      due(1, x.seenAt(17, 0, NONE, 0));
+      due(0, x.seen(17, 1, NONE));
+      due(1, x.chooseFor(17, 0, INT));
+      due(0, x.chooseFor(g, 0, INT));
+      due(2, x.count(1));
+    }
+  }
+
   /** Promise 5: what a refused call leaves. */
   static void promise05Refused() {
     refused(NOTHING, "member", 16, 0, 0, NONE, 0, 0, 0, 0, 0);
@@ -221,6 +244,7 @@ public final class EdgesOfMembers extends DocumentTest {
     for (int count : new int[] {LEAST, -1, 5, MOST}) refused(SOME, "member", 18, 2, 4, NONE, count, 2, 2, 2, 2);
     refused(SOME, "member", 18, 0, 0, NONE, 1, 1, 0, 0, 0);
     refused(SOME, "member", 16, 2, 0, INT, 1, 3, 0, 0, 0);
+    refused(SOME, "member", 17, 2, 0, NULL, 1, 3, 0, 0, 0);
     refused(SOME, "member", 20, 1, 0, INT, 0, 0, 0, 0, 0);
     for (int type = 16; type <= 40; type += 4) refused(FULL, "member", type, 1, 0, NONE, 1, 1, 0, 0, 0);
     refused(FULL, "member", 28, 0, 0, NONE, 1, 1, 0, 0, 0);
