@@ -11,7 +11,7 @@ public final class EdgesOfTypes extends DocumentTest {
     return x;
   }
 
-  /** Terms: "0 bool .. 10 null's. 16 .. 39: told ones. 64 + t: ARRAYS of t (t being 0 .. 9 or a told one)", none told. */
+  /** Promises 6 to 8 and 11, terms: "0 bool .. 10 null's. 16 .. 39: told ones. 64 + t: ARRAYS of t (t being 0 .. 9 or a told one)", none told. */
   static void termsNumbersThatAreTypesOfANewObject() {
     for (int t : NUMBERS) {
       boolean good = t >= 0 && t <= 10 || t >= 64 && t <= 73;
@@ -22,7 +22,7 @@ public final class EdgesOfTypes extends DocumentTest {
     }
   }
 
-  /** Terms: "16 .. 39: told ones", so many as have been told and no more, and their ARRAYS. */
+  /** Promises 6, 8 and 11, terms: "16 .. 39: told ones", so many as have been told and no more, and their ARRAYS. */
   static void termsNumbersThatAreTypesWhenSomeAreTold() {
     for (int told : new int[] {1, 2, 5, 23, 24}) {
       for (int t : NUMBERS) {
@@ -34,7 +34,7 @@ public final class EdgesOfTypes extends DocumentTest {
     }
   }
 
-  /** Terms: the last told TYPE is one, the next is none yet, and so are their ARRAYS. */
+  /** Promise 6, terms: the last told TYPE is one, the next is none yet, and so are their ARRAYS. */
   static void termsEachToldTypeComesWithItsArray() {
     Counted x = new Counted();
     for (int t = 16; t < 40; t++) {
@@ -48,7 +48,7 @@ public final class EdgesOfTypes extends DocumentTest {
     due(BAD, x.is(104, 104));
   }
 
-  /** Terms: "S and T are one". */
+  /** Promise 6, terms: "S and T are one". */
   static void termsEachTypeIsItself() {
     for (int t : allTypes(24)) {
       due(1, mixed(24).is(t, t), "is " + t);
@@ -56,7 +56,7 @@ public final class EdgesOfTypes extends DocumentTest {
     }
   }
 
-  /** Terms: "int IS long, long IS double, int IS double", and no other two PRIMITIVES. */
+  /** Promise 6, terms: "int IS long, long IS double, int IS double", and no other two PRIMITIVES. */
   static void termsPrimitivesThatAreOthers() {
     Counted x = new Counted();
     for (int s = BOOL; s <= DOUBLE; s++) {
@@ -64,7 +64,7 @@ public final class EdgesOfTypes extends DocumentTest {
     }
   }
 
-  /** Terms: "All but PRIMITIVES are REFERENCES", "null's IS each REFERENCE; each REFERENCE IS Object". */
+  /** Promise 6, terms: "All but PRIMITIVES are REFERENCES", "null's IS each REFERENCE; each REFERENCE IS Object". */
   static void termsReferencesBeginBehindDouble() {
     for (int t : allTypes(24)) {
       Counted x = mixed(24);
@@ -75,7 +75,7 @@ public final class EdgesOfTypes extends DocumentTest {
     }
   }
 
-  /** Terms: "Int, Long, Double ARE Number", Bool and all others not (but Number and null's). */
+  /** Promise 6, terms: "Int, Long, Double ARE Number", Bool and all others not (but Number and null's). */
   static void termsBoxesThatAreNumbers() {
     for (int t : allTypes(24)) {
       boolean number = t >= BOXED_INT && t <= BOXED_DOUBLE || t == NUMBER || t == NULL;
@@ -83,7 +83,7 @@ public final class EdgesOfTypes extends DocumentTest {
     }
   }
 
-  /** Terms: the BOXES are no PRIMITIVES, nor one another. */
+  /** Promise 6, terms: the BOXES are no PRIMITIVES, nor one another. */
   static void termsBoxesAreNoOthers() {
     Counted x = new Counted();
     for (int s = BOOL; s <= BOXED_DOUBLE; s++) {
@@ -94,7 +94,7 @@ public final class EdgesOfTypes extends DocumentTest {
     }
   }
 
-  /** Terms: "a told one IS what it is below, and what that IS", through 24 CLASSES. */
+  /** Promise 6, terms: "a told one IS what it is below, and what that IS", through 24 CLASSES. */
   static void termsToldClassesThroughAllLevels() {
     for (int s = 16; s < 40; s++) {
       Counted x = withClasses(24);
@@ -103,7 +103,7 @@ public final class EdgesOfTypes extends DocumentTest {
     }
   }
 
-  /** Terms: the same through 24 INTERFACES, told from the top, from the bottom, and from both. */
+  /** Promise 6, terms: the same through 24 INTERFACES, told from the top, from the bottom, and from both. */
   static void termsToldInterfacesThroughAllLevels() {
     for (int way = 0; way < 3; way++) {
       for (int s = 16; s < 40; s++) {
@@ -117,7 +117,7 @@ public final class EdgesOfTypes extends DocumentTest {
     }
   }
 
-  /** Terms: "an ARRAY of a REFERENCE s IS an ARRAY of t if s IS t"; one of a PRIMITIVE is just itself. */
+  /** Promise 6, terms: "an ARRAY of a REFERENCE s IS an ARRAY of t if s IS t"; one of a PRIMITIVE is just itself. */
   static void termsArraysOfReferencesAlone() {
     int[] elements = {0, 1, 2, 3, 4, 5, 6, 7, 8, 9, 16, 17, 18};
     for (int s : elements) {
