@@ -683,6 +683,27 @@ public final class EdgesOfChoices extends DocumentTest {
     }
   }
 
+  /** Section 3: "In PHASE 3 also the ARRAYS' TYPES": FUNCTIONS that are finer for all of 1 .. 5 LAMBDAS do not do. */
+  static void promise17VariedOnesOfFunctions() {
+    for (int many = 1; many <= 5; many++) {
+      Counted x = withClasses(1);
+      int f = x.addFunction(INT, INT), g = x.addFunction(LONG, INT), h = x.face();
+      x.below(h, f);
+      due(2, x.add(16, 0, VARIED, NONE, ARRAY + f));
+      due(3, x.add(16, 0, VARIED, NONE, ARRAY + g));
+      for (int k = 0; k < many; k++) x.lambda(1, 1, INT, 0, INT);
+      due(AMBIGUOUS, x.choose(16, 0, NONE, 0), many + " lambdas");
+      appliedAre(x, 3, 2, 3);
+      due(0, x.special(2, 3));
+      due(0, x.special(3, 2));
+      due(4, x.add(16, 1, VARIED, NONE, ARRAY + f));
+      due(5, x.add(16, 1, VARIED, NONE, ARRAY + h));
+      due(5, x.choose(16, 1, NONE, 0), many + " lambdas");
+      due(1, x.special(5, 4));
+      due(0, x.special(4, 5));
+    }
+  }
+
   /** What it is: "An object is used for at most 512 calls": the 512th is answered as the first, behind refused ones. */
   static void whatItIsTheLastCallBehindRefusedOnes() {
     Counted x = new Counted();
