@@ -6,7 +6,7 @@ import java.util.TreeSet;
 
 /**
  * What the tests of the document's sentences share. A test is a method whose name begins with the promise that it tests (or
- * "terms", "whatItIs"); its remark tells the sentence.
+ * "terms", "whatItIs", "readme"); its remark tells the sentence.
  */
 abstract class DocumentTest {
   static final int NONE = MemberChoice.NONE, BAD = MemberChoice.BAD, UNSEEN = MemberChoice.UNSEEN;
@@ -99,7 +99,7 @@ abstract class DocumentTest {
   private static Map<String, Method> testsOf(Class<?> tests) {
     Map<String, Method> found = new TreeMap<>();
     for (Method m : tests.getDeclaredMethods()) {
-      if (m.getName().matches("(promise\\d\\d|terms|whatItIs).*")) found.put(m.getName(), m);
+      if (m.getName().matches("(promise\\d\\d|terms|whatItIs|readme).*")) found.put(m.getName(), m);
     }
     return found;
   }

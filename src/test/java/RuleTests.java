@@ -4,8 +4,13 @@ import java.lang.reflect.Method;
 import java.lang.reflect.Modifier;
 import java.nio.file.Files;
 import java.nio.file.Path;
+import java.util.Map;
 import java.util.Random;
+import java.util.Set;
+import java.util.TreeMap;
 import java.util.TreeSet;
+import java.util.regex.Matcher;
+import java.util.regex.Pattern;
 
 /** The document's face just as it stands, a source without what LANGUAGE.md leaves out, and calls that never throw. */
 public final class RuleTests {
@@ -14,7 +19,12 @@ public final class RuleTests {
   private static final String[] CONSTANTS = {"NONE -1", "BAD -2", "UNSEEN -3", "UNMEANT -4", "UNFIT -5", "AMBIGUOUS -6",
     "INSTANCE -7"};
   private static final String[] LEFT_OUT = {"throw", "throws", "try", "catch", "synchronized", "assert", "volatile", "Object",
-    "System.out", "->", "::", "equals", "hashCode", "toString", "protected", "HashMap", "Exact", "record", "new Integer"};
+    "System.out", "->", "::", "equals", "hashCode", "toString", "protected", "HashMap", "record", "new Integer"};
+  private static final String LIBRARY = "Arrays\\.(copyOf|copyOfRange|fill)|System\\.arraycopy|(Integer|Long|Math)\\."
+    + "(compare|max|min|abs|bitCount|floorDiv|floorMod|signum|numberOf(Leading|Trailing)Zeros|M(AX|IN)_VALUE)";
+  private static final Pattern METHOD =
+    Pattern.compile("(?ms)^( {4}| {8})((?:public |private )?(?:[\\w\\[\\]]+ )?)(\\w+)\\([^()]*\\) \\{\n(.*?)^\\1\\}$");
+  private static final int MOST_LINES = 60, MOST_DEPTH = 8;
   private static int failed = 0;
 
   private static void hold(boolean good, String what) {
@@ -80,9 +90,13 @@ public final class RuleTests {
     }
   }
 
-  private static void sourceKeepsToTheRules() throws java.io.IOException {
+  private static String codeOfTheClass() throws java.io.IOException {
     String source = Files.readString(Path.of("src/main/java/MemberChoice.java"));
-    String code = source.replaceAll("(?s)/\\*.*?\\*/", "").replaceAll("//[^\n]*", "");
+    return source.replaceAll("(?s)/\\*.*?\\*/", "").replaceAll("//[^\n]*", "");
+  }
+
+  private static void sourceKeepsToTheRules() throws java.io.IOException {
+    String code = codeOfTheClass();
     for (String word : LEFT_OUT) {
       boolean letters = Character.isLetter(word.charAt(0));
       String pattern = letters ? "(?s).*\\b" + word.replace(".", "\\.") + "\\b.*" : "(?s).*" + word + ".*";
@@ -90,6 +104,45 @@ public final class RuleTests {
     }
     String imports = code.replaceAll("(?s)public final class.*", "").strip();
     hold(imports.equals("import java.util.Arrays;"), "the source imports Arrays alone, found " + imports);
+  }
+
+  /** Rules 4, 11 and 12: what is called of the library, how long methods are, and that only constructors make objects. */
+  private static void methodsAreAsDue() throws java.io.IOException {
+    Matcher method = METHOD.matcher(codeOfTheClass());
+    while (method.find()) {
+      String name = method.group(3), body = method.group(4);
+      boolean constructor = Character.isUpperCase(name.charAt(0));
+      hold(body.lines().count() <= MOST_LINES, name + " is short");
+      hold(constructor || !body.matches("(?s).*\\bnew\\b.*"), name + " makes no object");
+      Matcher used = Pattern.compile("\\b(?:Arrays|Integer|Long|Math|System|String)\\.\\w+").matcher(body);
+      while (used.find()) hold(used.group().matches(LIBRARY), name + " does without " + used.group());
+    }
+  }
+
+  /** Rules 8 and 11: methods of one name are taken together, so that no call is overlooked. */
+  private static void callsAreNotDeep() throws java.io.IOException {
+    Map<String, Set<String>> called = new TreeMap<>();
+    Matcher method = METHOD.matcher(codeOfTheClass());
+    while (method.find()) {
+      Set<String> names = called.computeIfAbsent(method.group(3), k -> new TreeSet<>());
+      Matcher call = Pattern.compile("\\b(\\w+)\\(").matcher(method.group(4));
+      while (call.find()) names.add(call.group(1));
+    }
+    for (Class<?> c : MemberChoice.class.getDeclaredClasses()) {
+      for (Method m : c.getDeclaredMethods()) hold(called.containsKey(m.getName()), m + " was found");
+    }
+    for (Method m : MemberChoice.class.getDeclaredMethods()) {
+      hold(called.containsKey(m.getName()), m + " was found");
+      hold(depthOf(m.getName(), called, 1) <= MOST_DEPTH, m + " goes at most eight deep");
+    }
+  }
+
+  private static int depthOf(String name, Map<String, Set<String>> called, int level) {
+    if (!called.containsKey(name)) return level - 1;
+    int deepest = level;
+    if (level > MOST_DEPTH) return deepest;
+    for (String next : called.get(name)) deepest = Math.max(deepest, depthOf(next, called, level + 1));
+    return deepest;
   }
 
   private static int anyNumber(Random random) {
@@ -117,6 +170,8 @@ public final class RuleTests {
     faceIsAsDue();
     sizesAreAsDue();
     sourceKeepsToTheRules();
+    methodsAreAsDue();
+    callsAreNotDeep();
     nothingThrows();
     System.out.println(failed == 0 ? "all rules hold" : failed + " do not hold");
     if (failed != 0) System.exit(1);
